@@ -695,7 +695,8 @@ public final class StruckWhile {
 
         int riseOf(int person) {
             int beside = countBeside(person, HOT);
-            int sum = sumOf(person, beside);
+            setLetters(person, beside);
+            int sum = holding == null ? 0 : holding.sum(letters);
             int asGirl = minute % 3 == 0 ? sum + 5 : sum;
             int asBanker = heat[person] >= HOT ? sum - 3 : sum;
             switch (kind[person]) {
@@ -716,17 +717,13 @@ public final class StruckWhile {
             }
         }
 
-        private int sumOf(int person, int hotBeside) {
-            if (holding == null) {
-                return 0;
-            }
+        private void setLetters(int person, int hotBeside) {
             letters[Square.P] = person;
             letters[Square.K] = kind[person];
             letters[Square.V] = v[person];
             letters[Square.H] = heat[person] / 10;
             letters[Square.N] = hotBeside;
             letters[Square.M] = minute % 10;
-            return holding.sum(letters);
         }
 
         void goOn(int minutes) {
@@ -755,26 +752,27 @@ public final class StruckWhile {
         }
     }
 
-    /** What a SQUARE's CLAUSES say, each E as a row of steps that work on a pile of bits. */
+    /** What a SQUARE's CLAUSES say: steps that work on a pile of bits, one behind the other. */
     private static final class Square {
         static final int P = 0, K = 1, V = 2, H = 3, N = 4, M = 5;
         /** A power of two, so that a masked place is always inside. */
         static final int LETTERS = 8;
-        static final int LESS = 0, SAME = 1, MORE = 2;
+        /** Any other comparison is more. */
+        static final int LESS = 0, SAME = 1;
         /** Steps that are no TEST; a TEST is 0 or more. */
-        static final int NOT = -1, BOTH = -2, EITHER = -3;
+        static final int NOT = -1, BOTH = -2, EITHER = -3, CLAUSE_ENDS = -4;
 
         int spark = SPARK_WITHOUT;
         private final int[] steps = new int[MOST_SIGNS];
         private int stepCount;
+        /** What each CLAUSE that ends adds to SUM. */
         private final int[] heats = new int[MOST_CLAUSES];
-        private final int[] ends = new int[MOST_CLAUSES];
-        private int clauseCount;
+        private int heatCount;
 
         void empty() {
             spark = SPARK_WITHOUT;
             stepCount = 0;
-            clauseCount = 0;
+            heatCount = 0;
         }
 
         void addTest(int letter, int comparison, int number) {
@@ -791,52 +789,47 @@ public final class StruckWhile {
 
         /** The steps since the last clause are this one's E. */
         void addClause(int heat) {
-            if (clauseCount < heats.length) {
-                heats[clauseCount] = heat;
-                ends[clauseCount] = stepCount;
-                clauseCount++;
+            if (heatCount < heats.length) {
+                heats[heatCount] = heat;
+                heatCount++;
+                addStep(CLAUSE_ENDS);
             }
-        }
-
-        int sum(int[] letters) {
-            int sum = 0;
-            int from = 0;
-            for (int i = 0; i < clauseCount; i++) {
-                if (isSo(from, ends[i], letters)) {
-                    sum += heats[i];
-                }
-                from = ends[i];
-            }
-            return sum;
         }
 
         /** Within 4 nestings at most 11 bits wait at once, so an int is pile enough. */
-        private boolean isSo(int from, int end, int[] letters) {
+        int sum(int[] letters) {
+            int sum = 0;
+            int ended = 0;
             int pile = 0;
-            for (int i = from; i < end; i++) {
+            for (int i = 0; i < stepCount; i++) {
                 int step = steps[i];
+                int top = pile & 1;
                 if (step >= 0) {
                     pile = pile << 1 | test(step, letters[step & LETTERS - 1]);
                 } else if (step == NOT) {
                     pile ^= 1;
-                } else {
-                    int top = pile & 1;
-                    pile >>= 1;
-                    pile = step == BOTH ? pile & (top | ~1) : pile | top;
+                } else if (step == BOTH) {
+                    pile = pile >> 1 & (top | ~1);
+                } else if (step == EITHER) {
+                    pile = pile >> 1 | top;
+                } else if (ended < heatCount) {
+                    sum += top == 1 ? heats[ended] : 0;
+                    ended++;
+                    pile = 0;
                 }
             }
-            return (pile & 1) != 0;
+            return sum;
         }
 
         private static int test(int step, int has) {
             int number = step >> 5;
             switch (step >> 3 & 3) {
                 case LESS:
-                    return asNumber(has < number);
+                    return has < number ? 1 : 0;
                 case SAME:
-                    return asNumber(has == number);
+                    return has == number ? 1 : 0;
                 default:
-                    return asNumber(has > number);
+                    return has > number ? 1 : 0;
             }
         }
     }
@@ -972,20 +965,12 @@ public final class StruckWhile {
 
         /** 1 or 2 digits; -1: there is none. */
         private int takeNumber() {
-            int tens = takeDigit();
-            if (tens < 0) {
-                return -1;
+            int number = -1;
+            for (int digits = 0; digits < 2 && at < size && text[at] >= '0' && text[at] <= '9'; digits++) {
+                number = Math.max(number, 0) * 10 + text[at] - '0';
+                at++;
             }
-            int units = takeDigit();
-            return units < 0 ? tens : tens * 10 + units;
-        }
-
-        private int takeDigit() {
-            if (at >= size || text[at] < '0' || text[at] > '9') {
-                return -1;
-            }
-            at++;
-            return text[at - 1] - '0';
+            return number;
         }
 
         /** Which of these signs is next; -1: none. */
@@ -1080,17 +1065,15 @@ public final class StruckWhile {
             int used = 0;
             for (int place = 0; place < works; place++) {
                 int rowsFromHere = ROWS_OF[works - 1 - place];
-                int skip = rest / rowsFromHere;
-                rest %= rowsFromHere;
-                int work = 0;
-                while (work < works - 1 && (skip > 0 || (used >> work & 1) != 0)) {
-                    if ((used >> work & 1) == 0) {
-                        skip--;
+                for (int work = 0; work < works; work++) {
+                    boolean isFree = (used >> work & 1) == 0;
+                    if (isFree && rest < rowsFromHere) {
+                        row[place] = work;
+                        used |= 1 << work;
+                        break;
                     }
-                    work++;
+                    rest -= isFree ? rowsFromHere : 0;
                 }
-                row[place] = work;
-                used |= 1 << work;
             }
         }
 

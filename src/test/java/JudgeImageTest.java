@@ -11,6 +11,7 @@ public final class JudgeImageTest {
         undoOfPeople();
         undoOfWorks();
         undoOfRowsByHand();
+        undoOfRowsOfOneKind();
         undoOfSquare();
         undoKeepsTheRest();
         C.end();
@@ -173,6 +174,31 @@ public final class JudgeImageTest {
         x.work(90, 5);
         x.anvil(0);
         C.due(27, "ends(0)", x.ends(0), 30);
+    }
+
+    private static void undoOfRowsOfOneKind() {
+        StruckWhile x = Check.ones(30, 60);
+        Check.square(x, "heat 5 p=0");
+        x.see(0, 2, true);
+        x.see(0, 1, false);
+        x.plan(1, 0);
+        x.book(0, 30);
+        x.book(0, 60);
+        x.image();
+        x.see(-1, 0, false);
+        x.see(0, 4, false);
+        x.see(0, 4, false);
+        x.plan(-1, 0);
+        x.plan(1, 1);
+        x.book(-1, 0);
+        x.book(0, 31);
+        x.book(0, 30);
+        x.undo();
+        C.due(27, "can(0, 0, 0)", x.can(0, 0, 0), 5);
+        C.due(27, "can(0, 0, 1)", x.can(0, 0, 1), 40);
+        C.due(27, "looked()", x.looked(), 1);
+        x.plan(0, 0);
+        C.due(27, "ends(0)", x.ends(0), 90);
     }
 
     private static void undoOfSquare() {

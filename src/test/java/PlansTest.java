@@ -7,6 +7,7 @@ public final class PlansTest {
         planOfNobody();
         ends();
         endsWithAway();
+        endsOfTenRows();
         endsChangesNothing();
         book();
         looked();
@@ -81,6 +82,16 @@ public final class PlansTest {
         C.due(22, "ends(0), 1 is not AWAY", x.ends(0), 0);
         x.away(2, true);
         C.due(22, "ends(0), 2 is AWAY", x.ends(0), 20);
+    }
+
+    private static void endsOfTenRows() {
+        StruckWhile x = Check.ones(3);
+        Check.square(x, "heat 5 p=0");
+        for (int i = 1; i <= 10; i++) {
+            x.plan(0, i);
+            C.due(22, "ends(0) behind " + i, x.ends(0), 3 + 5 * i);
+        }
+        C.due(22, "told(0)", x.told(0), 0);
     }
 
     private static void endsChangesNothing() {

@@ -9,6 +9,7 @@ public final class RowsTalkTest {
         bestByDue();
         bestWithDone();
         bestGoesOnBehindTheDue();
+        bestIsTheLastRow();
         bestLongRow();
         talkRefused();
         talk();
@@ -113,6 +114,17 @@ public final class RowsTalkTest {
         bestIs(y, "90 by 3", 40, 2, 1, 2, 0);
     }
 
+    private static void bestIsTheLastRow() {
+        StruckWhile x = six();
+        x.work(30, 4);
+        x.work(40, 3);
+        x.work(50, 2);
+        x.work(60, 1);
+        bestIs(x, "backwards", 40, 4, 3, 2, 1, 0);
+        bestIs(x, "backwards", 3, 3, 0, 2, 1, 3);
+        bestIs(x, "backwards", 2, 2, 0, 1, 2, 3);
+    }
+
     private static void bestLongRow() {
         StruckWhile x = Check.ones(0, 0);
         Check.square(x, "heat 1 p<9");
@@ -172,6 +184,7 @@ public final class RowsTalkTest {
         talkIs(x, "alike", 5, 1, 45);
         talkIs(x, "0 more", 0, 0, 40);
         talkIs(Check.ones(99, 0), "99 at most", 9, 0, 99);
+        talkIs(six(), "the last one", 5, 5, 65);
     }
 
     private static void talkAnvilAndAway() {

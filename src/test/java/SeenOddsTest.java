@@ -9,6 +9,7 @@ public final class SeenOddsTest {
         heats();
         can();
         canOfAnother();
+        canByAllRows();
         oddsRefused();
         odds();
         oddsOfMore();
@@ -109,6 +110,23 @@ public final class SeenOddsTest {
         x.away(1, true);
         canIs(x, "AWAY", 1, 0, -5, 0, -5);
         canIs(x, "AWAY", 0, 0, -5, 0, -5);
+    }
+
+    /** Five rows, each of which bars some HEATS: 1 gets 7 hotter each MINUTE. */
+    private static void canByAllRows() {
+        StruckWhile x = Check.ones(0, 0);
+        Check.square(x, "heat 7 p=1;spark 99");
+        x.see(1, 0, false);
+        canIs(x, "one row", 1, 50, 0, 10, 0);
+        x.see(1, 7, true);
+        canIs(x, "two rows", 1, 49, 1, 0, -5);
+        x.see(1, 2, false);
+        canIs(x, "three rows", 1, 35, 1, 0, -5);
+        x.see(1, 5, true);
+        canIs(x, "four rows", 1, 21, 15, 0, -5);
+        x.see(1, 3, false);
+        canIs(x, "five rows", 1, 14, 15, 0, -5);
+        canIs(x, "five rows", 0, 0, -5, 0, -5);
     }
 
     private static void oddsAre(StruckWhile x, String name, int person, int n, long above, long below) {

@@ -9,6 +9,7 @@ public final class SquareTest {
         faultByNesting();
         squareHolds();
         sixSquares();
+        nothingStaysOfAFault();
         tests();
         joined();
         spark();
@@ -148,6 +149,20 @@ public final class SquareTest {
         C.due(11, "count(6)", x.count(6), 11);
     }
 
+    private static void nothingStaysOfAFault() {
+        StruckWhile x = Check.ones(0);
+        String none = "p=1" + "&p=1".repeat(21);
+        for (int i = 0; i < 4; i++) {
+            C.due(11, "a long FAULT", Check.square(x, "heat 1 " + none + ";s"), -10 - 96);
+        }
+        String all = "p=0" + "&p=0".repeat(21);
+        C.due(11, "a long SQUARE", Check.square(x, "heat 2 " + all), 0);
+        C.due(11, "of(0, 4)", x.of(0, 4), 2);
+        C.due(11, "nine CLAUSES", Check.square(x, "heat 1 p=0;heat 2 p=0;heat 3 p=0;heat 4 p=0;heat 5 p=0;heat 6 p=0;"
+            + "heat 7 p=0;heat 8 p=0;heat 9 p=0"), 1);
+        C.due(11, "of(0, 4)", x.of(0, 4), 45);
+    }
+
     /** The RISE of one by a SQUARE with this E is 1, if it holds, else 0. */
     private static void holds(StruckWhile x, int person, String e, int due) {
         StruckWhile y = new StruckWhile();
@@ -163,7 +178,7 @@ public final class SquareTest {
             y.away(p, x.of(p, 3) == 1);
         }
         int without = y.of(person, 4);
-        Check.square(y, "heat 10 " + e);
+        C.due(11, "square of " + e, Check.square(y, "heat 10 " + e), 0);
         C.due(11, e + " of " + person, y.of(person, 4) - without, due * 10);
     }
 
@@ -222,9 +237,11 @@ public final class SquareTest {
         x.one(0, 3, 0);
         String[] so = {"t|t", "t|f", "f|t", "t&t", "!f", "!(f)", "!!t", "(t)", "t|t&f", "f&f|t", "t|f&f", "!f&t",
             "!f|f", "!(t&f)", "(t|f)&t", "!(f|f)&!(t&f)", "f|f|t", "t&t&t", "!!!!t", "((((t))))", "!f&!f", "t&(f|(f|(f|t)))",
-            "f|f&f|f&t|t", "(t&t|f)&(f|t&t)"};
+            "f|f&f|f&t|t", "(t&t|f)&(f|t&t)", "t|t&p<0",
+            "f|t&(f|t&(f|t&(f|t&(f|t&t))))"};
         String[] not = {"f|f", "t&f", "f&t", "f&f", "!t", "!!f", "(f)", "(t|t)&f", "!t|f", "!t&t", "!(t|f)", "f|f|f",
-            "t&t&f", "t&f&t", "f&t&t", "!!!t", "f&t|t&f", "!(t|t)|f&t", "f&(t|t)", "!f&f", "(t|f)&(f|f)", "!(!(f))"};
+            "t&t&f", "t&f&t", "f&t&t", "!!!t", "f&t|t&f", "!(t|t)|f&t", "f&(t|t)", "!f&f", "(t|f)&(f|f)", "!(!(f))", "p<0",
+            "f|t&(f|t&(f|t&(f|t&(f|t&f))))"};
         for (String e : so) {
             holds(x, 0, e.replace("t", "v=3").replace("f", "v=4"), 1);
         }
