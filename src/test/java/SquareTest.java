@@ -10,6 +10,7 @@ public final class SquareTest {
         squareHolds();
         sixSquares();
         nothingStaysOfAFault();
+        nothingStaysOfALongerText();
         tests();
         joined();
         spark();
@@ -163,6 +164,21 @@ public final class SquareTest {
         C.due(11, "of(0, 4)", x.of(0, 4), 45);
     }
 
+    private static void nothingStaysOfALongerText() {
+        StruckWhile x = Check.ones(0, 0);
+        C.due(11, "a longer text", Check.square(x, "heat 1 p=12&(p=1);spark 12;x"), -10 - 27);
+        String[] early = {"heat 1 p=1", "heat 1 p=12&(p=1)", "heat 1 p=12&(p=1);spark 1"};
+        for (int i = 0; i < early.length; i++) {
+            C.due(11, "square of '" + early[i] + "'", Check.square(x, early[i]), i);
+            C.due(11, "a longer text", Check.square(x, "heat 1 p=12&(p=1);spark 12;x"), -10 - 27);
+        }
+        String[] fault = {"heat 1 p=12&(p=1", "heat 1 p=12&(p", "heat 1 p=12&", "heat 1", "hea", "heat 1 p=12&(p=1);spark"};
+        for (String text : fault) {
+            C.due(11, "square of '" + text + "'", Check.square(x, text), -10 - text.length());
+            C.due(11, "a longer text", Check.square(x, "heat 1 p=12&(p=1);spark 12;x"), -10 - 27);
+        }
+    }
+
     /** The RISE of one by a SQUARE with this E is 1, if it holds, else 0. */
     private static void holds(StruckWhile x, int person, String e, int due) {
         StruckWhile y = new StruckWhile();
@@ -237,7 +253,7 @@ public final class SquareTest {
         x.one(0, 3, 0);
         String[] so = {"t|t", "t|f", "f|t", "t&t", "!f", "!(f)", "!!t", "(t)", "t|t&f", "f&f|t", "t|f&f", "!f&t",
             "!f|f", "!(t&f)", "(t|f)&t", "!(f|f)&!(t&f)", "f|f|t", "t&t&t", "!!!!t", "((((t))))", "!f&!f", "t&(f|(f|(f|t)))",
-            "f|f&f|f&t|t", "(t&t|f)&(f|t&t)", "t|t&p<0",
+            "f|f&f|f&t|t", "(t&t|f)&(f|t&t)", "t|t&p<0", "p<0|t",
             "f|t&(f|t&(f|t&(f|t&(f|t&t))))"};
         String[] not = {"f|f", "t&f", "f&t", "f&f", "!t", "!!f", "(f)", "(t|t)&f", "!t|f", "!t&t", "!(t|f)", "f|f|f",
             "t&t&f", "t&f&t", "f&t&t", "!!!t", "f&t|t&f", "!(t|t)|f&t", "f&(t|t)", "!f&f", "(t|f)&(f|f)", "!(!(f))", "p<0",
