@@ -378,6 +378,7 @@ public final class StruckWhile {
     }
 
     public int act(int person, int act, int x) {
+        // An act that is none has no TRACE either.
         acts.ran = 0;
         if (!town.hasOne(person) || !isWithin(act, Acts.GLOWS, Acts.TELLS)) {
             return 0;
@@ -1225,7 +1226,6 @@ public final class StruckWhile {
         private int v;
 
         int start(Town town, int person, int act, int x) {
-            ran = 0;
             number = person;
             kind = town.kind[person];
             v = town.v[person];
