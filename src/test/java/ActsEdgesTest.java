@@ -77,6 +77,17 @@ public final class ActsEdgesTest extends Edges {
         due(8, x.act(1, GLOWS, 7));
     }
 
+    static void promise28_a_KIND_without_a_body_has_that_of_the_next_above() {
+        int[][] due = {{10, 11, 12}, {10, 20, 12}, {30, 11, 12}, {10, 11, 40}, {50, 51, 12}, {30, 11, 60}, {71, 70, 40}};
+        for (int kind = 0; kind <= 6; kind++) {
+            for (int act = GLOWS; act <= TELLS; act++) {
+                StruckWhile x = second(kind, 0);
+                x.act(1, act, 0);
+                due(due[kind][act], x.trace(0));
+            }
+        }
+    }
+
     static void promise28_glows_of_ONE_wraps() {
         due(MIN, second(0, 0).act(1, GLOWS, MAX));
         due(MIN + 1, second(0, 0).act(1, GLOWS, MIN));

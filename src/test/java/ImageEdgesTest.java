@@ -60,6 +60,13 @@ public final class ImageEdgesTest extends Edges {
         due(-12, x.judge(0, MAX));
     }
 
+    static void promise25_CAST_comes_ahead_of_there_being_nobody() {
+        StruckWhile x = new StruckWhile();
+        x.tape(0, 2, 3);
+        due(-12, x.judge(0, 0));
+        due(-12, x.judge(0, -1));
+    }
+
     static void promise25_nobody_is_minus_5_wherever_the_place_is() {
         StruckWhile x = bytes(new StruckWhile(), 1, 2);
         for (int i : new int[] {MIN, -1, 0, 1, 2, MAX}) {
@@ -337,6 +344,56 @@ public final class ImageEdgesTest extends Edges {
         due(31, x.ends(0));
         due(1, x.count(5));
         due(0, x.looked());
+    }
+
+    static void promise27_SEEN_though_other_rows_stand_in_its_place() {
+        StruckWhile x = Check.ones(30, 60);
+        Check.square(x, "heat 1 p=0");
+        x.see(0, 0, false);
+        x.see(0, 2, true);
+        x.see(1, 12, true);
+        x.image();
+        due(0, x.see(-1, 0, true));
+        x.see(1, 1, false);
+        x.see(1, 1, true);
+        x.see(1, 1, false);
+        due(0, x.can(0, 0, 0));
+        x.undo();
+        due(2, x.can(0, 0, 0));
+        due(48, x.can(0, 0, 1));
+        // By two sparks of 1, 0 is hot behind 2 MINUTES.
+        due(80, x.can(1, 0, 1));
+    }
+
+    static void promise27_the_PLAN_though_other_rows_stand_in_its_place() {
+        StruckWhile x = Check.ones(30, 40);
+        Check.square(x, "heat 1 p=0;heat 5 p=1;spark 99");
+        x.plan(0, 0);
+        x.plan(1, 0);
+        x.plan(0, 0);
+        x.image();
+        due(0, x.plan(-1, 0));
+        x.plan(1, 1);
+        x.plan(0, 0);
+        x.plan(2, 1);
+        due(71, x.ends(0));
+        x.undo();
+        due(81, x.ends(0));
+    }
+
+    static void promise27_the_BOOK_though_other_rows_stand_in_its_place() {
+        StruckWhile x = Check.ones(30, 40);
+        x.book(0, 30);
+        x.book(1, 40);
+        x.book(1, 41);
+        x.image();
+        due(0, x.book(-1, 0));
+        x.book(1, 39);
+        x.book(0, 31);
+        x.book(0, 30);
+        due(0, x.looked());
+        x.undo();
+        due(2, x.looked());
     }
 
     static void promise27_SEEN_the_PLAN_and_the_BOOK_empty_again() {

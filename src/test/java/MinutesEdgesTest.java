@@ -400,6 +400,20 @@ public final class MinutesEdgesTest extends Edges {
         due(30, x.on(60, 10));
     }
 
+    static void promise14_each_goes_on_by_its_KIND_its_v_and_its_ROW() {
+        StruckWhile x = Stands.alone(4, 9, 41);
+        x.one(6, 0, 0);
+        x.row(1, 0, 9);
+        x.one(2, 8, 0);
+        Check.square(x, "heat 2 v=8");
+        due(50, x.on(1, 10));
+        due(56, x.on(2, 10));
+        due(9, x.on(1, 11));
+        due(9, x.on(2, 11));
+        due(7, x.on(1, 12));
+        due(9, x.on(2, 12));
+    }
+
     static void promise14_it_goes_on_with_what_is_ON_THE_ANVIL_now() {
         StruckWhile x = atTheAnvil(500, 30);
         due(0, x.on(1, 10));

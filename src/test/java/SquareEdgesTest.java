@@ -121,6 +121,14 @@ public final class SquareEdgesTest extends Edges {
         due(0, Check.square(x, "spark 5"));
     }
 
+    static void promise11_nothing_stays_of_a_TEXT_with_a_FAULT() {
+        StruckWhile x = Check.ones(0);
+        due(-10 - 39, Check.square(x, "heat 9 p=1;calm 8 p=1&v<1;spark 44;heat"));
+        due(0, Check.square(x, "heat 2 p=0"));
+        due(2, x.of(0, 4));
+        due(80, x.told(1));
+    }
+
     static void promise11_by_a_SQUARE_THE_TEXT_is_empty_then() {
         StruckWhile x = new StruckWhile();
         due(0, Check.square(x, "spark 5"));
@@ -447,6 +455,8 @@ public final class SquareEdgesTest extends Edges {
         says(true, Check.ones(99), 0, "h<99");
         says(false, Check.ones(99), 0, "h>99");
         says(false, Check.ones(99), 0, "h<0");
+        says(false, Check.ones(99), 0, "p<0");
+        says(true, Check.ones(99), 0, "!p<0");
         says(false, Check.ones(99), 0, "n>2");
         says(false, Check.ones(99), 0, "k>6");
     }
