@@ -166,13 +166,40 @@ public final class RowsTalkEdgesTest extends Edges {
         best(x, 40, 1, 1, 0);
     }
 
-    static void promise15_the_last_row_of_all() {
-        StruckWhile x = Check.ones(30, 40, 50, 60);
-        x.work(30, 4);
-        x.work(40, 3);
-        x.work(50, 2);
-        x.work(60, 1);
-        best(x, 40, 4, 3, 2, 1, 0);
+    /** Each WORK can be DONE in time in one place of the row only. */
+    static void promise15_each_row_of_all_from_the_first_to_the_last() {
+        for (int works = 1; works <= 4; works++) {
+            eachRow(new int[works], 0);
+        }
+    }
+
+    private static void eachRow(int[] row, int place) {
+        if (place == row.length) {
+            isTheBest(row);
+            return;
+        }
+        for (int w = 0; w < row.length; w++) {
+            row[place] = w;
+            boolean isNew = true;
+            for (int ahead = 0; ahead < place; ahead++) {
+                isNew = isNew && row[ahead] != w;
+            }
+            if (isNew) {
+                eachRow(row, place + 1);
+            }
+        }
+    }
+
+    private static void isTheBest(int[] row) {
+        StruckWhile x = Check.ones(60, 50, 40, 30);
+        for (int w = 0; w < row.length; w++) {
+            for (int place = 0; place < row.length; place++) {
+                if (row[place] == w) {
+                    due(w, x.work(60 - 10 * place, place + 1));
+                }
+            }
+        }
+        best(x, 40, row.length, row);
     }
 
     static void promise15_what_is_DONE_is_passed_over_at_once() {
