@@ -7,6 +7,7 @@ import java.util.Set;
 import java.util.TreeSet;
 import java.util.function.Supplier;
 import java.util.function.ToLongFunction;
+import java.util.stream.Stream;
 
 /**
  * Cases at the edges. A test of them is a class under this one; each of its cases is a static method of its own, without
@@ -114,6 +115,21 @@ abstract class Edges {
             long first = call.applyAsLong(x);
             due(first, call.applyAsLong(x));
             leftAsItWas(x, made);
+        }
+    }
+
+    /** The call changes something, and all that is otherwise behind it is in lines of a Sight that begin with one of these. */
+    static void changesOnly(long want, Supplier<StruckWhile> made, ToLongFunction<StruckWhile> call, String... beginnings) {
+        StruckWhile x = made.get();
+        due(want, call.applyAsLong(x));
+        List<String> got = Sight.of(x);
+        List<String> without = Sight.of(made.get());
+        holds("something changed", !got.equals(without));
+        for (int i = 0; i < got.size(); i++) {
+            String line = got.get(i);
+            boolean mayChange = Stream.of(beginnings).anyMatch(line::startsWith);
+            holds("only " + String.join(", ", beginnings) + " may change: " + line + ", without the call " + without.get(i),
+                mayChange || line.equals(without.get(i)));
         }
     }
 

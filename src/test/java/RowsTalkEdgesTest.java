@@ -211,6 +211,17 @@ public final class RowsTalkEdgesTest extends Edges {
         best(x, 1, 2, 0, 1);
     }
 
+    /** Were a MINUTE lost by the one that is DONE, the other would be late, and a later row the first of the best. */
+    static void promise15_what_is_DONE_is_passed_over_at_once_between_others() {
+        StruckWhile x = Check.ones(60, 50, 40);
+        x.work(50, 1);
+        x.work(60, 0);
+        x.work(40, 2);
+        x.anvil(1);
+        x.pass(1);
+        best(x, 2, 3, 0, 1, 2);
+    }
+
     static void promise15_all_are_DONE_now() {
         StruckWhile x = Check.ones(1, 1);
         x.work(1, 0);
@@ -294,6 +305,12 @@ public final class RowsTalkEdgesTest extends Edges {
     static void promise16_minus_5_with_nobody() {
         talk(new StruckWhile(), 0, -5, -5);
         talk(new StruckWhile(), 99, -5, -5);
+    }
+
+    static void promise16_the_greatest_HEAT_may_be_0() {
+        StruckWhile x = Check.ones(0, 0);
+        due(0, x.talk(0, 0));
+        due(0, x.talk(0, 1));
     }
 
     static void promise16_minus_5_if_all_are_AWAY() {

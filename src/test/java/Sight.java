@@ -8,6 +8,8 @@ import java.util.List;
 final class Sight {
     private final StruckWhile x;
     private final List<String> all = new ArrayList<>();
+    /** Stands ahead of each line: behind which using call it was seen. */
+    private String behind = "";
 
     private Sight(StruckWhile x) {
         this.x = x;
@@ -21,14 +23,14 @@ final class Sight {
         sight.rowsByHand();
         sight.tapes();
         sight.trace();
-        sight.rows("ROW");
+        sight.rows();
         sight.text();
         sight.image();
         return sight.all;
     }
 
     private void sees(String call, long answer) {
-        all.add(call + " = " + answer);
+        all.add(behind + call + " = " + answer);
     }
 
     /** 14 calls. */
@@ -88,10 +90,10 @@ final class Sight {
     }
 
     /** 24 calls. */
-    private void rows(String name) {
+    private void rows() {
         for (int p = 0; p < 6; p++) {
             for (int part = 0; part < 4; part++) {
-                sees(name + " " + p + ", part " + part, x.row(p, part, 0));
+                sees("row(" + p + ", " + part + ", 0)", x.row(p, part, 0));
             }
         }
     }
@@ -99,19 +101,22 @@ final class Sight {
     /** 8 calls. */
     private void text() {
         sees("square()", x.square());
-        sees("told(1) behind square()", x.told(1));
+        behind = "behind square(): ";
+        sees("told(1)", x.told(1));
         for (int p = 0; p < 6; p++) {
-            sees("of(" + p + ", 4) behind square()", x.of(p, 4));
+            sees("of(" + p + ", 4)", x.of(p, 4));
         }
+        behind = "";
     }
 
     /** 118 calls. */
     private void image() {
         sees("undo()", x.undo());
+        behind = "behind undo(): ";
         counts();
         people();
         works();
         rowsByHand();
-        rows("ROW of THE IMAGE");
+        rows();
     }
 }
